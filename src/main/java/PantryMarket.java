@@ -54,8 +54,7 @@ public final class PantryMarket {
     /** Promise 3. */
     public int sell(int till, int article, int units) throws IllegalArgumentException, IllegalStateException {
         checkGoods(till, article, units);
-        checkUp(till);
-        checkShare(till, article, units);
+        checkSuffices(till, article, units);
         Book book = tills[till].book;
         book.share[article] -= units;
         book.sold[article] += units;
@@ -78,8 +77,7 @@ public final class PantryMarket {
     /** Promise 5. */
     public int broken(int till, int article, int units) throws IllegalArgumentException, IllegalStateException {
         checkGoods(till, article, units);
-        checkUp(till);
-        checkShare(till, article, units);
+        checkSuffices(till, article, units);
         Book book = tills[till].book;
         book.share[article] -= units;
         book.broken[article] += units;
@@ -93,8 +91,7 @@ public final class PantryMarket {
         if (ticks < 1 || ticks > LONGEST_RESERVATION) {
             throw new IllegalArgumentException("no such number of ticks");
         }
-        checkUp(till);
-        checkShare(till, article, units);
+        checkSuffices(till, article, units);
         Book book = tills[till].book;
         if (book.reservations.isFull()) {
             throw new IllegalStateException("too many reservations");
@@ -390,7 +387,8 @@ public final class PantryMarket {
         }
     }
 
-    private void checkShare(int till, int article, int units) {
+    private void checkSuffices(int till, int article, int units) {
+        checkUp(till);
         if (tills[till].book.share[article] < units) {
             throw new IllegalStateException("the till has not so many units");
         }

@@ -1,6 +1,6 @@
 import java.util.concurrent.Callable;
 
-/** Counts the answers of one test that are not due, prints them, and ends the test with exit code 1 if there are any. */
+/** Counts and prints the answers of one test that are not due; the test ends with exit code 1 if there are any. */
 final class Check {
     private int asked = 0;
     private int wrong = 0;

@@ -59,7 +59,8 @@ public final class CrashTest {
         m.tick(1, 8);
         deliverAll(m);
         check.is("the record is another one", "clock 5 [61, 9, 3, 0] of 73 -1 49 [5, 0, 0, 0] of 5 -1 0"
-            + " [0, 0, 0, 0] of 0 -1 0 [0, 0, 0, 0] of 0 -1 0 [-1, -1, -1, -1] [1, 0, 1, 1]", () -> Picture.ofRecord(m, 0));
+            + " [0, 0, 0, 0] of 0 -1 0 [0, 0, 0, 0] of 0 -1 0 [-1, -1, -1, -1] [1, 0, 1, 1]",
+            () -> Picture.ofRecord(m, 0));
         check.is("crash(0)", true, () -> m.crash(0));
         check.is("the record is the kept one", atSync, () -> Picture.ofRecord(m, 0));
         m.back(0);

@@ -35,7 +35,8 @@ public final class FaceTest {
         for (Class<?> inside : PantryMarket.class.getDeclaredClasses()) {
             int modifiers = inside.getModifiers();
             check.is(inside.getName() + " is static and neither public nor protected", true,
-                () -> Modifier.isStatic(modifiers) && !Modifier.isPublic(modifiers) && !Modifier.isProtected(modifiers));
+                () -> Modifier.isStatic(modifiers)
+                    && !Modifier.isPublic(modifiers) && !Modifier.isProtected(modifiers));
         }
         privateNamesAreTheirOwn(check);
     }
@@ -48,7 +49,8 @@ public final class FaceTest {
                 for (Class<?> type : method.getExceptionTypes()) {
                     thrown.append(thrown.length() == 0 ? "" : ",").append(type.getSimpleName());
                 }
-                found.add(method.getReturnType() + " " + method.getName() + " " + method.getParameterCount() + " " + thrown);
+                found.add(method.getReturnType() + " " + method.getName() + " " + method.getParameterCount() + " "
+                    + thrown);
             }
         }
         return found;

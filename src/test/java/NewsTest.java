@@ -98,6 +98,25 @@ public final class NewsTest {
         check.is("and is not above", 0, () -> m.deliver(0));
         check.is("news(1, 0, 0)", 5, () -> m.news(1, 0, 0));
         lostNewsTakeAStamp(check);
+        stampsAreKept(check);
+    }
+
+    private static void stampsAreKept(Check check) {
+        PantryMarket m = new PantryMarket(2);
+        m.stock(0, 5);
+        m.tick(0, 9);
+        m.twice(4);
+        m.twice(4);
+        check.is("stamp 4 of article 0", 1, () -> m.deliver(4));
+        m.crash(1);
+        m.back(1);
+        check.is("forgotten, it is new again", 1, () -> m.deliver(4));
+        m.sync(1);
+        m.crash(1);
+        m.back(1);
+        check.is("kept, it is not", 0, () -> m.deliver(4));
+        check.is("nor is stamp 0", 0, () -> m.deliver(0));
+        check.is("news(1, 0, 0)", 5, () -> m.news(1, 0, 0));
     }
 
     private static void lostNewsTakeAStamp(Check check) {
@@ -140,12 +159,14 @@ public final class NewsTest {
         check.is("without any news", -1, () -> m.ask(1, 0, 5));
         check.is("nothing is sent", 0, () -> m.look(1));
         m.unsell(2, 0, 7);
-        m.unsell(3, 0, 7);
+        m.unsell(3, 0, 1);
         m.unsell(1, 0, 50);
         tellAll(m, 0);
         check.is("with news of 0 alone", -1, () -> m.ask(1, 0, 5));
         tellAll(m, 3);
         check.is("the only one above 0", 3, () -> m.ask(1, 0, 5));
+        m.unsell(3, 0, 6);
+        tellAll(m, 3);
         tellAll(m, 2);
         check.is("the first of two", 2, () -> m.ask(1, 0, 1000000));
         m.stock(0, 8);
@@ -212,10 +233,13 @@ public final class NewsTest {
         check.is("one knows", 0, () -> m.look(3));
         tellAll(m, 1);
         check.is("both know", 1, () -> m.look(3));
-        m.sell(0, 3, 1);
-        check.is("news are old", 0, () -> m.look(3));
-        m.unsell(0, 3, 1);
-        check.is("news are right again", 1, () -> m.look(3));
+        for (int k = 0; k < 4; k++) {
+            int article = k;
+            m.unsell(1, article, 1);
+            check.is("news of article " + article + " are old", 0, () -> m.look(3));
+            m.sell(1, article, 1);
+            check.is("news are right again", 1, () -> m.look(3));
+        }
         m.give(0, 1, 3, 1);
         m.deliver(0);
         tellAll(m, 0);

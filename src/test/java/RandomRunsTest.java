@@ -1,6 +1,7 @@
 import java.lang.reflect.InvocationTargetException;
 import java.lang.reflect.Method;
 import java.util.ArrayList;
+import java.util.Arrays;
 import java.util.HashMap;
 import java.util.List;
 import java.util.Map;
@@ -8,14 +9,14 @@ import java.util.Random;
 
 /** Runs of 512 calls by fixed seeds: each answer must be the Model's, and no unit may get lost or come from nothing. */
 public final class RandomRunsTest {
-    private static final int RUNS = 600;
+    private static final int RUNS = 300;
     private static final int CALLS = 512;
     private static final int SHOWN = 12;
 
-    /** How often each call is made, by kinds of runs: mixed, much on the net, many crashes, a full net, quiet. */
     private static final String[] CALL_NAMES = {"stock", "sell", "unsell", "broken", "reserve", "pick", "tick", "give",
         "ask", "counted", "sync", "crash", "back", "deliver", "drop", "twice", "slot", "has", "news", "pair", "total",
         "look"};
+    /** How often each call is made, by kinds of runs: mixed, much on the net, many crashes, a full net, quiet. */
     private static final int[][] WEIGHTS = {
         {4, 6, 4, 4, 8, 5, 8, 10, 6, 2, 3, 2, 4, 30, 4, 4, 4, 4, 3, 4, 4, 4},
         {6, 2, 2, 1, 2, 1, 6, 25, 8, 1, 1, 1, 2, 60, 6, 8, 3, 2, 2, 4, 3, 3},
@@ -90,7 +91,8 @@ public final class RandomRunsTest {
         }
     }
 
-    private static void one(int seed, List<String> done, PantryMarket market, Model model, String name, Object... args) {
+    private static void one(int seed, List<String> done, PantryMarket market, Model model, String name,
+            Object... args) {
         String want = call(model, name, args);
         String got = call(market, name, args);
         if (!got.equals(want)) {
@@ -123,39 +125,39 @@ public final class RandomRunsTest {
     }
 
     private static Object[] arguments(String name, Model model, Random random) {
-        int till = random.nextInt(model.look(0));
-        int other = random.nextInt(model.look(0));
-        int article = random.nextInt(3) == 0 ? random.nextInt(4) : 0;
-        int units = random.nextInt(12) == 0 ? 1000000 : 1 + random.nextInt(random.nextBoolean() ? 20 : 1000);
-        int slot = Math.max(0, model.look(1) - random.nextInt(model.look(1) + 1));
-        if (random.nextInt(3) != 0) {
-            slot = 0;
-        }
-        Object[] all;
-        switch (name) {
-            case "stock": case "counted": all = new Object[] {article, units}; break;
-            case "sell": case "unsell": case "broken": case "ask": all = new Object[] {till, article, units}; break;
-            case "reserve": all = new Object[] {till, article, units, 1 + random.nextInt(random.nextBoolean() ? 6 : 100)}; break;
-            case "pick": all = new Object[] {till, random.nextInt(12)}; break;
-            case "tick": all = new Object[] {till, random.nextInt(10) == 0 ? random.nextInt(31) : random.nextInt(4)}; break;
-            case "give": all = new Object[] {till, other, article, units}; break;
-            case "sync": case "crash": case "back": all = new Object[] {till}; break;
-            case "deliver": case "drop": case "twice": all = new Object[] {slot}; break;
-            case "slot": all = new Object[] {slot, random.nextInt(6)}; break;
-            case "has": all = new Object[] {till, article, random.nextInt(4)}; break;
-            case "news": all = new Object[] {till, other, article}; break;
-            case "pair": all = new Object[] {till, other, random.nextInt(4)}; break;
-            case "total": all = new Object[] {article, random.nextInt(3)}; break;
-            default: all = new Object[] {random.nextInt(16)}; break;
-        }
+        Object[] all = goodArguments(name, model, random);
         if (random.nextInt(25) == 0) {
             all[random.nextInt(all.length)] = WRONG[random.nextInt(WRONG.length)];
         }
         return all;
     }
 
+    private static Object[] goodArguments(String name, Model model, Random random) {
+        int till = random.nextInt(model.look(0));
+        int other = random.nextInt(model.look(0));
+        int article = random.nextInt(3) == 0 ? random.nextInt(4) : 0;
+        int units = random.nextInt(12) == 0 ? 1000000 : 1 + random.nextInt(random.nextBoolean() ? 20 : 1000);
+        int slot = random.nextInt(3) == 0 ? random.nextInt(model.look(1) + 1) : 0;
+        return switch (name) {
+            case "stock", "counted" -> new Object[] {article, units};
+            case "sell", "unsell", "broken", "ask" -> new Object[] {till, article, units};
+            case "reserve" -> new Object[] {till, article, units, 1 + random.nextInt(random.nextBoolean() ? 6 : 100)};
+            case "pick" -> new Object[] {till, random.nextInt(12)};
+            case "tick" -> new Object[] {till, random.nextInt(random.nextInt(10) == 0 ? 31 : 4)};
+            case "give" -> new Object[] {till, other, article, units};
+            case "sync", "crash", "back" -> new Object[] {till};
+            case "deliver", "drop", "twice" -> new Object[] {slot};
+            case "slot" -> new Object[] {slot, random.nextInt(6)};
+            case "has" -> new Object[] {till, article, random.nextInt(4)};
+            case "news" -> new Object[] {till, other, article};
+            case "pair" -> new Object[] {till, other, random.nextInt(4)};
+            case "total" -> new Object[] {article, random.nextInt(3)};
+            default -> new Object[] {random.nextInt(16)};
+        };
+    }
+
     private static String text(String name, Object[] arguments) {
-        return name + java.util.Arrays.toString(arguments);
+        return name + Arrays.toString(arguments);
     }
 
     private static String call(Object target, String name, Object... arguments) {
@@ -164,7 +166,7 @@ public final class RandomRunsTest {
         try {
             if (method == null) {
                 Class<?>[] types = new Class<?>[arguments.length];
-                java.util.Arrays.fill(types, int.class);
+                Arrays.fill(types, int.class);
                 method = target.getClass().getMethod(name, types);
                 METHODS.put(key, method);
             }

@@ -152,5 +152,23 @@ public final class ReservationTest {
         check.is("pick(0, 0)", true, () -> m.pick(0, 0));
         check.is("pick(0, 1)", true, () -> m.pick(0, 1));
         check.is("has", "[6, 4, 0, 0]", () -> Picture.hasOf(m, 0, 0));
+        keptWithArticleAndEnd(check);
+    }
+
+    private static void keptWithArticleAndEnd(Check check) {
+        PantryMarket m = new PantryMarket(2);
+        m.stock(3, 10);
+        m.reserve(0, 3, 1, 5);
+        m.reserve(0, 3, 2, 3);
+        m.sync(0);
+        check.is("both go", 2, () -> m.tick(0, 5));
+        m.crash(0);
+        m.back(0);
+        check.is("both are there again", "[7, 0, 0, 3]", () -> Picture.hasOf(m, 0, 3));
+        check.is("before an end", 0, () -> m.tick(0, 2));
+        check.is("the first end", 1, () -> m.tick(0, 1));
+        check.is("has", "[9, 0, 0, 1]", () -> Picture.hasOf(m, 0, 3));
+        check.is("before the other end", 0, () -> m.tick(0, 1));
+        check.is("the other end", 1, () -> m.tick(0, 1));
     }
 }

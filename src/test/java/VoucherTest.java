@@ -11,6 +11,7 @@ public final class VoucherTest {
         giverSyncs(check);
         receiverSyncs(check);
         receiptIsNotSynced(check);
+        whichOnesAreOpen(check);
         downReceiver(check);
         wrongPairs(check);
         wrongTotals(check);
@@ -82,31 +83,40 @@ public final class VoucherTest {
         check.is("what till 1 has seen", "[0, 0, 0, 1]", () -> Picture.pairOf(m, 1, 0));
     }
 
-    /** Number 0 stays on its way while fifteen later ones get through. */
     private static void sixteenNumbers(Check check) {
         PantryMarket m = new PantryMarket(2);
         m.stock(0, 1000);
-        m.give(0, 1, 0, 100);
-        for (int k = 1; k < 16; k++) {
-            int number = k;
-            check.is("give " + k, number, () -> m.give(0, 1, 0, 1));
-            check.is("its voucher", 1, () -> m.deliver(1));
-            check.is("its receipt", 1, () -> m.deliver(1));
-        }
-        check.is("towards till 1", "[16, 1, 0, 0]", () -> Picture.pairOf(m, 0, 1));
-        check.is("what till 1 has seen", "[0, 0, 0, 15]", () -> Picture.pairOf(m, 1, 0));
-        check.changesNothing("number 16", m, () -> check.illegalState("number 16", () -> m.give(0, 1, 0, 1)));
-        check.is("on its way", "[100, 1000, 1000]", () -> Picture.totalsOf(m, 0));
-        check.is("number 0", 1, () -> m.deliver(0));
-        check.is("the floor leaps", "[0, 0, 16, 16]", () -> Picture.pairOf(m, 1, 0));
-        check.illegalState("number 16 before the receipt", () -> m.give(0, 1, 0, 1));
-        m.deliver(0);
-        check.is("number 16", 16, () -> m.give(0, 1, 0, 1));
+        oneBehindFifteen(check, m, 0);
+        oneBehindFifteen(check, m, 16);
+        check.is("number 32", 32, () -> m.give(0, 1, 0, 1));
         m.twice(0);
         check.is("its voucher", 1, () -> m.deliver(0));
         check.is("its voucher again", 0, () -> m.deliver(0));
-        check.is("what till 1 has seen", "[0, 0, 17, 17]", () -> Picture.pairOf(m, 1, 0));
-        check.is("has", "[116, 0, 0, 0]", () -> Picture.hasOf(m, 1, 0));
+        check.is("what till 1 has seen", "[0, 0, 33, 33]", () -> Picture.pairOf(m, 1, 0));
+        check.is("has", "[231, 0, 0, 0]", () -> Picture.hasOf(m, 1, 0));
+    }
+
+    /** The first number stays on its way while the fifteen behind it get through. */
+    private static void oneBehindFifteen(Check check, PantryMarket m, int first) {
+        check.is("give " + first, first, () -> m.give(0, 1, 0, 100));
+        for (int k = 1; k < 16; k++) {
+            int number = first + k;
+            check.is("give " + number, number, () -> m.give(0, 1, 0, 1));
+            m.twice(1);
+            check.is("its voucher", 1, () -> m.deliver(1));
+            check.is("its voucher again", 0, () -> m.deliver(1));
+            check.is("its receipt", 1, () -> m.deliver(1));
+            check.is("its receipt again", 0, () -> m.deliver(1));
+        }
+        int next = first + 16;
+        check.is("towards till 1", "[" + next + ", 1, 0, 0]", () -> Picture.pairOf(m, 0, 1));
+        check.is("what till 1 has seen", "[0, 0, " + first + ", " + (first + 15) + "]", () -> Picture.pairOf(m, 1, 0));
+        check.changesNothing("the next", m, () -> check.illegalState("the next", () -> m.give(0, 1, 0, 1)));
+        check.is("on its way", "[100, 1000, 1000]", () -> Picture.totalsOf(m, 0));
+        check.is("the first", 1, () -> m.deliver(0));
+        check.is("the floor leaps", "[0, 0, " + next + ", " + next + "]", () -> Picture.pairOf(m, 1, 0));
+        check.illegalState("the next before the receipt", () -> m.give(0, 1, 0, 1));
+        check.is("the receipt", 1, () -> m.deliver(0));
     }
 
     private static void theirNumbersByPairs(Check check) {
@@ -136,7 +146,11 @@ public final class VoucherTest {
         m.give(0, 1, 0, 1);
         m.give(0, 1, 0, 2);
         m.give(0, 1, 0, 4);
+        m.twice(2);
         check.is("number 2", 1, () -> m.deliver(2));
+        check.is("number 2 again, above the floor", 0, () -> m.deliver(2));
+        check.is("it is open, but seen", "[3, 10, 10]", () -> Picture.totalsOf(m, 0));
+        m.drop(3);
         check.is("seen", "[0, 0, 0, 1]", () -> Picture.pairOf(m, 1, 0));
         check.is("number 0", 1, () -> m.deliver(0));
         check.is("seen", "[0, 0, 1, 2]", () -> Picture.pairOf(m, 1, 0));
@@ -196,6 +210,44 @@ public final class VoucherTest {
         m.sync(0);
         m.crash(0);
         check.is("after a sync it stays so", "[1, 0, 0, 0]", () -> Picture.pairOf(m, 0, 1));
+    }
+
+    private static void whichOnesAreOpen(Check check) {
+        PantryMarket m = new PantryMarket(2);
+        for (int article = 0; article < 4; article++) {
+            m.unsell(1, article, 100);
+            m.give(1, 0, article, 11 + article);
+        }
+        check.is("on their way to the store", "[11, 0, 0] [14, 0, 0]",
+            () -> Picture.totalsOf(m, 0) + " " + Picture.totalsOf(m, 3));
+        check.is("and they are open", 4, () -> m.look(4));
+        check.is("number 1", 1, () -> m.deliver(1));
+        check.is("its receipt", 1, () -> m.deliver(3));
+        sentAgain(check, m, "0/1/0/0/0/11", "0/1/0/2/2/13", "0/1/0/3/3/14");
+        check.is("number 4 behind them", 4, () -> m.give(1, 0, 1, 12));
+        sentAgain(check, m, "0/1/0/0/0/11", "0/1/0/2/2/13", "0/1/0/3/3/14", "0/1/0/4/1/12");
+        check.is("number 0", 1, () -> m.deliver(0));
+        check.is("its receipt", 1, () -> m.deliver(m.look(1) - 1));
+        check.is("number 2", 1, () -> m.deliver(0));
+        check.is("its receipt", 1, () -> m.deliver(m.look(1) - 1));
+        sentAgain(check, m, "0/1/0/3/3/14", "0/1/0/4/1/12");
+        m.crash(1);
+        m.back(1);
+        sentAgain(check, m, "0/1/0/0/0/11", "0/1/0/2/2/13", "0/1/0/3/3/14", "0/1/0/4/1/12");
+    }
+
+    /** Till 1 tells the net anew which vouchers it has open. */
+    private static void sentAgain(Check check, PantryMarket m, String... want) {
+        while (m.drop(0)) {
+            continue;
+        }
+        m.tick(1, 1);
+        for (int k = 0; k < want.length; k++) {
+            int slot = k;
+            check.is("what is sent again", want[slot], () -> Picture.slotOf(m, slot));
+        }
+        int vouchers = m.look(1) - (m.look(6) % 2 == 0 ? 1 : 0);
+        check.is("how many are sent again", want.length, () -> vouchers);
     }
 
     private static void downReceiver(Check check) {
