@@ -395,8 +395,8 @@ public final class PantryMarket {
     }
 
     private boolean canGive(int till, int to, int article, int units) {
-        Book book = tills[till].book;
-        return isUp(till) && book.share[article] >= units && book.pairings[to].canOpen();
+        Till giver = tills[till];
+        return giver.up && giver.book.share[article] >= units && giver.book.pairings[to].canOpen();
     }
 
     private int sendVoucher(int till, int to, int article, int units) {

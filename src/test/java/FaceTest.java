@@ -93,6 +93,8 @@ public final class FaceTest {
             {Integer.MAX_VALUE, 5}};
         for (int[] row : rows) {
             check.is("the tills of " + row[0], row[1], () -> new PantryMarket(row[0]).look(0));
+            check.is("a market of " + row[0], Trace.of(() -> new PantryMarket(row[1])),
+                () -> Trace.of(() -> new PantryMarket(row[0])));
         }
     }
 

@@ -23,7 +23,7 @@ public final class RandomRunsTest {
         {6, 8, 4, 3, 8, 6, 8, 10, 4, 3, 6, 12, 24, 40, 3, 3, 2, 3, 3, 3, 3, 3},
         {4, 3, 2, 2, 4, 2, 14, 14, 6, 1, 1, 1, 3, 12, 1, 8, 6, 2, 2, 3, 3, 4},
         {3, 1, 1, 0, 0, 0, 14, 2, 2, 0, 0, 0, 1, 90, 0, 1, 1, 1, 3, 1, 2, 8}};
-    private static final int[] WRONG = {-1, 4, 5, 6, 24, 31, 101, 1000001, Integer.MIN_VALUE, Integer.MAX_VALUE};
+    private static final int[] WRONG = {-1, 0, 4, 5, 6, 24, 31, 101, 1000001, Integer.MIN_VALUE, Integer.MAX_VALUE};
 
     private static final Map<String, Method> METHODS = new HashMap<>();
 
@@ -136,7 +136,7 @@ public final class RandomRunsTest {
         int till = random.nextInt(model.look(0));
         int other = random.nextInt(model.look(0));
         int article = random.nextInt(3) == 0 ? random.nextInt(4) : 0;
-        int units = random.nextInt(12) == 0 ? 1000000 : 1 + random.nextInt(random.nextBoolean() ? 20 : 1000);
+        int units = units(model.has(till, article, 0), random);
         int slot = random.nextInt(3) == 0 ? random.nextInt(model.look(1) + 1) : 0;
         return switch (name) {
             case "stock", "counted" -> new Object[] {article, units};
@@ -153,6 +153,16 @@ public final class RandomRunsTest {
             case "pair" -> new Object[] {till, other, random.nextInt(4)};
             case "total" -> new Object[] {article, random.nextInt(3)};
             default -> new Object[] {random.nextInt(16)};
+        };
+    }
+
+    /** Often the share itself or one unit more, for there a till begins to refuse. */
+    private static int units(int share, Random random) {
+        return switch (random.nextInt(12)) {
+            case 0 -> 1000000;
+            case 1 -> share;
+            case 2 -> share + 1;
+            default -> 1 + random.nextInt(random.nextBoolean() ? 20 : 1000);
         };
     }
 
