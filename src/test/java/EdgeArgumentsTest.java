@@ -104,7 +104,8 @@ public final class EdgeArgumentsTest {
     private static void toItself(Check check) {
         for (int till = 0; till < 3; till++) {
             int t = till;
-            check.refused("give of " + t + " to itself", Check.ARGUMENT, () -> Markets.busy(3), m -> m.give(t, t, 1, 1));
+            check.refused("give of " + t + " to itself", Check.ARGUMENT, () -> Markets.busy(3),
+                m -> m.give(t, t, 1, 1));
         }
     }
 

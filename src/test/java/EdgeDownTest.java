@@ -14,6 +14,7 @@ public final class EdgeDownTest {
         messagesToIt(check);
         vouchersToIt(check);
         asksToIt(check);
+        ticksSendToIt(check);
         othersGoOn(check);
         shows(check);
         check.end();
@@ -51,7 +52,7 @@ public final class EdgeDownTest {
         check.refused("counted", Check.STATE, busyWithout(0), m -> m.counted(0, 1));
         check.refused("counted of none", Check.STATE, busyWithout(0), m -> m.counted(0, 0));
         PantryMarket m = busyWithout(1).get();
-        check.is("stock asks for the store alone", 3000000 - 4, () -> m.stock(0, 1));
+        check.is("stock asks for the store alone", 2999996, () -> m.stock(0, 1));
         check.is("so does counted", -2999996, () -> m.counted(0, 0));
     }
 
@@ -79,7 +80,7 @@ public final class EdgeDownTest {
         check.is("is it up", 1, () -> m.look(12));
         check.is("its record is what it was", down, () -> Picture.ofRecord(m, 2));
         check.is("back(2) again", false, () -> m.back(2));
-        check.is("it sells again", 1999999, () -> m.sell(2, 3, 1) + 7);
+        check.is("it sells again", 1999992, () -> m.sell(2, 3, 1));
     }
 
     /** "DELIVERING takes it out; if the till is DOWN, that is all", and deliver answers 0, for each of the kinds. */
@@ -145,6 +146,18 @@ public final class EdgeDownTest {
         check.is("deliver", 0, () -> m.deliver(0));
         check.is("nothing is given", "[10, 0, 0, 0]", () -> Picture.hasOf(m, 0, 0));
         check.is("nothing is sent", 0, () -> m.look(1));
+    }
+
+    /** The others do not know that it is DOWN: it gets its open vouchers again, and news. */
+    private static void ticksSendToIt(Check check) {
+        PantryMarket m = new PantryMarket(3);
+        m.stock(0, 10);
+        m.give(0, 1, 0, 4);
+        m.drop(0);
+        m.crash(1);
+        m.tick(0, 1);
+        check.is("its voucher", "0/0/1/0/0/4", () -> Picture.slotOf(m, 0));
+        check.is("its news", "2/0/1/0/6/0", () -> Picture.slotOf(m, 1));
     }
 
     private static void othersGoOn(Check check) {

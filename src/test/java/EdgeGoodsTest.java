@@ -103,10 +103,10 @@ public final class EdgeGoodsTest {
         check.is("3 more", MOST - 400, () -> m.stock(1, 3));
         check.is("booked", MOST, () -> m.total(1, 2));
         check.refused("1 more", Check.STATE, () -> bookedBut(0), x -> x.stock(1, 1));
-        PantryMarket million = bookedBut(0);
-        million.counted(1, MILLION);
-        check.is("room for 98999600", 98999600, () -> MOST - million.total(1, 2));
-        check.is("what goes out by counting can be booked anew", 2 * MILLION, () -> million.stock(1, MILLION));
+        PantryMarket fewer = bookedBut(0);
+        fewer.counted(1, MILLION);
+        check.is("booked after counting", MILLION + 400, () -> fewer.total(1, 2));
+        check.is("there is room again", 2 * MILLION, () -> fewer.stock(1, MILLION));
     }
 
     private static void bookedOfEachArticle(Check check) {

@@ -8,7 +8,7 @@ import java.util.function.Supplier;
  * those behind it move up", and the slots that deliver, drop, twice and slot refuse.
  */
 public final class EdgeNetTest {
-    private static final String FULL_BUT_NEW = "23 messages, 0 lost";
+    private static final String FULL_BUT_ONE = "23 messages, 0 lost";
 
     public static void main(String[] args) {
         Check check = new Check();
@@ -55,7 +55,7 @@ public final class EdgeNetTest {
     private static void lastPlace(Check check, String what, Object answer, String message,
             Function<PantryMarket, ?> call) {
         PantryMarket m = news(23);
-        check.is("before", FULL_BUT_NEW, () -> inNet(m));
+        check.is("before", FULL_BUT_ONE, () -> inNet(m));
         check.is(what, answer, () -> call.apply(m));
         check.is(what + " is the last one", message, () -> Picture.slotOf(m, 23));
         check.is(what + " has a place", "24 messages, 0 lost", () -> inNet(m));
@@ -172,22 +172,22 @@ public final class EdgeNetTest {
     private static void withoutAnswerThereIsRoom(Check check) {
         PantryMarket news = news(24);
         check.is("news", 1, () -> news.deliver(23));
-        check.is("the net", FULL_BUT_NEW, () -> inNet(news));
+        check.is("the net", FULL_BUT_ONE, () -> inNet(news));
         PantryMarket old = news(24);
         check.is("old news", "1 0", () -> old.deliver(4) + " " + old.deliver(0));
         check.is("the net", "22 messages, 0 lost", () -> inNet(old));
         PantryMarket asked = news(23);
         asked.ask(1, 0, 100);
         check.is("an ask for too much", 0, () -> asked.deliver(23));
-        check.is("the net", FULL_BUT_NEW, () -> inNet(asked));
+        check.is("the net", FULL_BUT_ONE, () -> inNet(asked));
         PantryMarket down = news(23);
         down.give(0, 1, 0, 1);
         down.crash(1);
         check.is("a voucher to a till that is DOWN", 0, () -> down.deliver(23));
-        check.is("the net", FULL_BUT_NEW, () -> inNet(down));
+        check.is("the net", FULL_BUT_ONE, () -> inNet(down));
         PantryMarket dropped = news(24);
         check.is("drop", true, () -> dropped.drop(23));
-        check.is("the net", FULL_BUT_NEW, () -> inNet(dropped));
+        check.is("the net", FULL_BUT_ONE, () -> inNet(dropped));
     }
 
     /** The first, one between and the last, of few and of all, by drop and by deliver. */

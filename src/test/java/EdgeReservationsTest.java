@@ -89,6 +89,12 @@ public final class EdgeReservationsTest {
         check.is("pick(1, 3)", true, () -> m.pick(1, 3));
         check.is("what was not kept is gone", false, () -> m.pick(1, 6));
         check.is("and its ID is next again", 6, () -> m.reserve(1, 2, 1, 1));
+        PantryMarket ending = made.get();
+        check.is("before the first end", 0, () -> ending.tick(1, 10));
+        for (int clock = 11; clock <= 16; clock++) {
+            check.is("each has its end as kept, one at " + clock, 1, () -> ending.tick(1, 1));
+        }
+        check.is("has", "[100, -100, 0, 0]", () -> Picture.hasOf(ending, 1, 2));
     }
 
     private static void sixOfEachTill(Check check) {
@@ -109,6 +115,8 @@ public final class EdgeReservationsTest {
         check.is("the first tick", 1, () -> m.tick(1, 1));
         check.is("has", "[100, -100, 0, 0]", () -> Picture.hasOf(m, 1, 2));
         check.is("it went once", 0, () -> m.tick(1, 1));
+        m.crash(1);
+        check.is("that it went was not synced, nor anything else", "[0, 0, 0, 0]", () -> Picture.hasOf(m, 1, 2));
     }
 
     private static void longest(Check check) {

@@ -1,6 +1,6 @@
 /**
- * "An object is used for at most 512 calls": as far as so many calls can drive a number, the answers hold. Each run here
- * makes 512 calls at the most, those that ask for the answers among them.
+ * "An object is used for at most 512 calls": as far as so many calls can drive a number, the answers hold. Each run
+ * here makes 512 calls at the most, those that ask for the answers among them.
  */
 public final class EdgeRunsTest {
     private static final int CALLS = 512;

@@ -4,7 +4,8 @@ import java.util.function.Supplier;
 
 /**
  * slot, has, news, pair, total and look: "NONE if there is none such", "or no such w", "they are the same",
- * "IndexOutOfBoundsException if there is none such or no such w", "of a till that is there", "NONE for any other which".
+ * "IndexOutOfBoundsException if there is none such or no such w", "of a till that is there", "NONE for any other
+ * which".
  */
 public final class EdgeViewsTest {
     private static final int[] FAR = {Integer.MIN_VALUE, -1000, 1000, Integer.MAX_VALUE};

@@ -199,7 +199,7 @@ public final class EdgeVouchersTest {
         check.is("number 16", 16, () -> m.give(0, 1, 0, 1));
     }
 
-    /** "ASK: if it could GIVE these units to the one that asks it does, else nothing": all of the share, but no more. */
+    /** "ASK: if it could GIVE these units to the one that asks it does, else nothing": all of the share, no more. */
     private static void askForAll(Check check) {
         PantryMarket m = asked(open(0), 995);
         check.is("all", 1, () -> m.deliver(0));

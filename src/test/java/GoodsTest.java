@@ -145,8 +145,8 @@ public final class GoodsTest {
             m.stock(article, 1000000);
         }
         int[][] wrong = {{-1, 0, 1}, {3, 0, 1}, {5, 0, 1}, {0, -1, 1}, {0, 4, 1}, {0, 0, 0}, {0, 0, -1},
-            {0, 0, 1000001}, {0, 0, Integer.MIN_VALUE}, {0, 0, Integer.MAX_VALUE}, {Integer.MAX_VALUE, 0, 1}, {Integer.MIN_VALUE, 0, 1},
-            {0, Integer.MAX_VALUE, 1}, {0, Integer.MIN_VALUE, 1}};
+            {0, 0, 1000001}, {0, 0, Integer.MIN_VALUE}, {0, 0, Integer.MAX_VALUE}, {Integer.MAX_VALUE, 0, 1},
+            {Integer.MIN_VALUE, 0, 1}, {0, Integer.MAX_VALUE, 1}, {0, Integer.MIN_VALUE, 1}};
         check.changesNothing("wrong goods", m, () -> {
             for (int[] w : wrong) {
                 String args = "(" + w[0] + ", " + w[1] + ", " + w[2] + ")";

@@ -17,9 +17,7 @@ public final class NetTest {
         m.stock(3, 1000);
         m.tick(0, 7);
         m.deliver(3);
-        while (m.drop(0)) {
-            continue;
-        }
+        Markets.dropAll(m);
         m.give(0, 1, 3, 11);
         m.twice(0);
         m.deliver(0);

@@ -49,9 +49,7 @@ public final class NewsTest {
         m.give(1, 0, 0, 2);
         m.give(1, 2, 0, 3);
         m.reserve(1, 0, 4, 2);
-        while (m.drop(0)) {
-            continue;
-        }
+        Markets.dropAll(m);
         check.is("tick(1, 2)", 1, () -> m.tick(1, 2));
         String[] want = {"0/1/0/0/0/2", "0/1/2/0/0/1", "0/1/2/1/0/3", "0/1/0/0/0/2", "0/1/2/0/0/1", "0/1/2/1/0/3",
             "2/1/2/0/4/0"};
@@ -139,21 +137,6 @@ public final class NewsTest {
         }
     }
 
-    /** Lets a till tell each other one of all its shares; of the messages only the news arrive. */
-    private static void tellAll(PantryMarket m, int till) {
-        int roundOfAll = 4 * m.look(0);
-        for (int k = 0; k < roundOfAll; k++) {
-            m.tick(till, 1);
-            while (m.look(1) > 0) {
-                if (m.slot(0, 0) == 2) {
-                    m.deliver(0);
-                } else {
-                    m.drop(0);
-                }
-            }
-        }
-    }
-
     private static void ask(Check check) {
         PantryMarket m = new PantryMarket(4);
         check.is("without any news", -1, () -> m.ask(1, 0, 5));
@@ -161,17 +144,17 @@ public final class NewsTest {
         m.unsell(2, 0, 7);
         m.unsell(3, 0, 1);
         m.unsell(1, 0, 50);
-        tellAll(m, 0);
+        Markets.tellAll(m, 0);
         check.is("with news of 0 alone", -1, () -> m.ask(1, 0, 5));
-        tellAll(m, 3);
+        Markets.tellAll(m, 3);
         check.is("the only one above 0", 3, () -> m.ask(1, 0, 5));
         m.unsell(3, 0, 6);
-        tellAll(m, 3);
-        tellAll(m, 2);
+        Markets.tellAll(m, 3);
+        Markets.tellAll(m, 2);
         check.is("the first of two", 2, () -> m.ask(1, 0, 1000000));
         m.stock(0, 8);
         check.is("by news, not by what is", 2, () -> m.ask(1, 0, 5));
-        tellAll(m, 0);
+        Markets.tellAll(m, 0);
         check.is("the greatest", 0, () -> m.ask(1, 0, 9));
         check.is("the message", "3/1/0/0/9/-1", () -> Picture.slotOf(m, 0));
         check.is("another article", -1, () -> m.ask(1, 1, 9));
@@ -188,7 +171,7 @@ public final class NewsTest {
     private static void askIsAnswered(Check check) {
         PantryMarket m = new PantryMarket(2);
         m.stock(0, 10);
-        tellAll(m, 0);
+        Markets.tellAll(m, 0);
         check.is("ask(1, 0, 4)", 0, () -> m.ask(1, 0, 4));
         m.sell(0, 0, 1);
         check.is("it gives", 1, () -> m.deliver(0));
@@ -204,7 +187,7 @@ public final class NewsTest {
     private static void askIsNotAnswered(Check check) {
         PantryMarket m = new PantryMarket(2);
         m.stock(0, 10);
-        tellAll(m, 0);
+        Markets.tellAll(m, 0);
         m.ask(1, 0, 11);
         check.is("too many units", 0, () -> m.deliver(0));
         check.is("nothing is sent", 0, () -> m.look(1));
@@ -229,9 +212,9 @@ public final class NewsTest {
         PantryMarket m = new PantryMarket(2);
         check.is("NONE is not the share", 0, () -> m.look(3));
         m.stock(3, 9);
-        tellAll(m, 0);
+        Markets.tellAll(m, 0);
         check.is("one knows", 0, () -> m.look(3));
-        tellAll(m, 1);
+        Markets.tellAll(m, 1);
         check.is("both know", 1, () -> m.look(3));
         for (int k = 0; k < 4; k++) {
             int article = k;
@@ -242,8 +225,8 @@ public final class NewsTest {
         }
         m.give(0, 1, 3, 1);
         m.deliver(0);
-        tellAll(m, 0);
-        tellAll(m, 1);
+        Markets.tellAll(m, 0);
+        Markets.tellAll(m, 1);
         check.is("the news are right", "8 1", () -> m.news(1, 0, 3) + " " + m.news(0, 1, 3));
         check.is("but a voucher is open", 0, () -> m.look(3));
         m.tick(0, 2);

@@ -3,7 +3,7 @@ import java.util.function.Supplier;
 /**
  * All that calls can bring to light of a market: what the face shows now, and what comes out later on, such as IDs and
  * ends of reservations, open vouchers, stamps, and what is kept. Looking so deep spoils the market, so each look has
- * one made anew.
+ * one made anew. It makes more than the 512 calls for which the document binds an object; the class does not count.
  */
 final class Trace {
     private static final int MOST_DELIVERIES = 500;

@@ -1,6 +1,6 @@
 import java.util.function.Function;
 
-/** The tests of refused calls are worth as much as Trace sees: here it must see every single change to a busy market. */
+/** The tests of refused calls are worth what Trace sees: here it must see every single change to a busy market. */
 public final class TraceTest {
     public static void main(String[] args) {
         Check check = new Check();

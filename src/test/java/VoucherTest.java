@@ -238,9 +238,7 @@ public final class VoucherTest {
 
     /** Till 1 tells the net anew which vouchers it has open. */
     private static void sentAgain(Check check, PantryMarket m, String... want) {
-        while (m.drop(0)) {
-            continue;
-        }
+        Markets.dropAll(m);
         m.tick(1, 1);
         for (int k = 0; k < want.length; k++) {
             int slot = k;
