@@ -452,11 +452,12 @@ public final class PantryMarket {
     private void sendNews(int till) {
         Book book = tills[till].book;
         int count = tills.length;
-        int to = book.clock % count;
+        // floorMod, so that no index is below 0 even when, far beyond 512 calls, the clock has run over.
+        int to = Math.floorMod(book.clock, count);
         if (to == till) {
             return;
         }
-        int article = book.clock / count % ARTICLES;
+        int article = Math.floorMod(book.clock / count, ARTICLES);
         net.send(NEWS, till, to, article, book.share[article], book.nextStamp);
         book.nextStamp++;
     }

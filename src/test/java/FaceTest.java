@@ -8,13 +8,18 @@ import java.util.TreeSet;
 
 /** Promise 1 and the public face: its members, no others, and what a new object answers. */
 public final class FaceTest {
-    private static final String STATE = "IllegalArgumentException,IllegalStateException";
+    private static final String STATE = " throws IllegalArgumentException,IllegalStateException";
+    private static final String BOUNDS = " throws IndexOutOfBoundsException";
     private static final String[] FACE = {
-        "int stock 2 " + STATE, "int sell 3 " + STATE, "int unsell 3 " + STATE, "int broken 3 " + STATE,
-        "int reserve 4 " + STATE, "boolean pick 2 ", "int tick 2 " + STATE, "int give 4 " + STATE,
-        "int ask 3 " + STATE, "int counted 2 " + STATE, "boolean sync 1 ", "boolean crash 1 ", "boolean back 1 ",
-        "int deliver 1 IndexOutOfBoundsException", "boolean drop 1 ", "boolean twice 1 ", "int slot 2 ",
-        "int has 3 IndexOutOfBoundsException", "int news 3 ", "int pair 3 ", "int total 2 ", "int look 1 "};
+        "public int stock(int,int)" + STATE, "public int sell(int,int,int)" + STATE,
+        "public int unsell(int,int,int)" + STATE, "public int broken(int,int,int)" + STATE,
+        "public int reserve(int,int,int,int)" + STATE, "public boolean pick(int,int)",
+        "public int tick(int,int)" + STATE, "public int give(int,int,int,int)" + STATE,
+        "public int ask(int,int,int)" + STATE, "public int counted(int,int)" + STATE,
+        "public boolean sync(int)", "public boolean crash(int)", "public boolean back(int)",
+        "public int deliver(int)" + BOUNDS, "public boolean drop(int)", "public boolean twice(int)",
+        "public int slot(int,int)", "public int has(int,int,int)" + BOUNDS, "public int news(int,int,int)",
+        "public int pair(int,int,int)", "public int total(int,int)", "public int look(int)"};
 
     public static void main(String[] args) {
         Check check = new Check();
@@ -29,7 +34,7 @@ public final class FaceTest {
         check.is("the class is public and final", true, () -> Modifier.isPublic(PantryMarket.class.getModifiers())
             && Modifier.isFinal(PantryMarket.class.getModifiers()));
         check.is("the methods", new TreeSet<>(Arrays.asList(FACE)), FaceTest::methods);
-        check.is("the fields", "[NONE]", FaceTest::fields);
+        check.is("the fields", "[public static final int NONE]", FaceTest::fields);
         check.is("the constructors", "[public PantryMarket(int)]",
             () -> Arrays.toString(PantryMarket.class.getDeclaredConstructors()));
         for (Class<?> inside : PantryMarket.class.getDeclaredClasses()) {
@@ -45,12 +50,7 @@ public final class FaceTest {
         Set<String> found = new TreeSet<>();
         for (Method method : PantryMarket.class.getDeclaredMethods()) {
             if (!Modifier.isPrivate(method.getModifiers())) {
-                StringBuilder thrown = new StringBuilder();
-                for (Class<?> type : method.getExceptionTypes()) {
-                    thrown.append(thrown.length() == 0 ? "" : ",").append(type.getSimpleName());
-                }
-                found.add(method.getReturnType() + " " + method.getName() + " " + method.getParameterCount() + " "
-                    + thrown);
+                found.add(withoutPlaces(method));
             }
         }
         return found;
@@ -60,16 +60,20 @@ public final class FaceTest {
         Set<String> found = new TreeSet<>();
         for (Field field : PantryMarket.class.getDeclaredFields()) {
             if (!Modifier.isPrivate(field.getModifiers())) {
-                found.add(field.getName());
+                found.add(withoutPlaces(field));
             }
         }
         return found;
     }
 
+    private static String withoutPlaces(Object member) {
+        return member.toString().replace("PantryMarket.", "").replace("java.lang.", "");
+    }
+
     private static void privateNamesAreTheirOwn(Check check) {
         Set<String> face = new TreeSet<>();
         for (String member : FACE) {
-            face.add(member.split(" ")[1]);
+            face.add(member.replaceAll(".* (\\w+)\\(.*", "$1"));
         }
         for (Method method : PantryMarket.class.getDeclaredMethods()) {
             if (Modifier.isPrivate(method.getModifiers())) {
